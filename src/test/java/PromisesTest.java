@@ -192,6 +192,10 @@ public final class PromisesTest {
     townFault("town x 1", 5, 0);
     townFault("town;2 1", 4, 0);
     townFault("towns 2 1", 0, 0);
+    townFault("townz 2 1", 0, 0);
+    townFault("atown 2 1", 0, 0);
+    townFault("town{2 1", 4, 0);
+    townFault("town`2 1", 4, 0);
     townFault("Town 2 1", 0, 0);
     townFault("5", 0, 0);
     townFault("town 2 1;", 9, 0);
@@ -538,6 +542,9 @@ public final class PromisesTest {
     due("lives go on", t.lives(1, 1, 1), 0);
     due("undo", t.undo(), 0);
     due("day", t.count(7), 998);
+    due("too far", t.run(0, 2), NONE);
+    due("just as far", t.run(0, 1), 0);
+    due("day", t.count(7), 999);
   }
 
   // ---- promise 14
