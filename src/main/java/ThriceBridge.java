@@ -89,10 +89,10 @@ public final class ThriceBridge {
     public int town() {
         Town told = new Town();
         told.read(tape);
+        tape.length = 0;
         if (tape.fault != 0) {
             return -2 - tape.fault;
         }
-        tape.length = 0;
         now.startIn(told);
         forgetActs();
         return told.bridges.size;
@@ -103,10 +103,10 @@ public final class ThriceBridge {
             return NONE;
         }
         rules[ruleCount].read(tape);
+        tape.length = 0;
         if (tape.fault != 0) {
             return -2 - tape.fault;
         }
-        tape.length = 0;
         ruleCount++;
         return ruleCount - 1;
     }

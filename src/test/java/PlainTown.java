@@ -339,8 +339,10 @@ final class PlainTown {
   }
   int end(int n) { if (!in(n, 0, tape.length)) return -1; tape = Arrays.copyOf(tape, n); return n; }
   int town() {
+    byte[] text = tape;
+    tape = new byte[0];
     try {
-      Told t = readTown(tape);
+      Told t = readTown(text);
       s = new State();
       s.told = t;
       s.at = new int[people()];
@@ -349,14 +351,15 @@ final class PlainTown {
       s.crossed = new int[people()][bridges()];
       s.since = new int[people()][bridges()];
       for (int[] c : t.crossed) s.crossed[c[0]][c[1]] = c[2];
-      tape = new byte[0];
       acts.clear();
       return bridges();
     } catch (Fault f) { return -2 - f.number; }
   }
   int rule() {
     if (rules.size() == 6) return -1;
-    try { rules.add(readRule(tape)); tape = new byte[0]; return rules.size() - 1; }
+    byte[] text = tape;
+    tape = new byte[0];
+    try { rules.add(readRule(text)); return rules.size() - 1; }
     catch (Fault f) { return -2 - f.number; }
   }
   int reach(int p, int[] left) {

@@ -72,13 +72,13 @@ public final class PromisesTest {
     ThriceBridge t = new ThriceBridge();
     due("town() of " + text, town(t, text), fault(place, kind));
     due("count(0) behind " + text, t.count(0), 0);
-    due("count(13) behind " + text, t.count(13), text.length());
+    due("count(13) behind " + text, t.count(13), 0);
   }
   private static void ruleFault(String text, int place, int kind) {
     ThriceBridge t = new ThriceBridge();
     due("rule() of " + text, rule(t, text), fault(place, kind));
     due("count(6) behind " + text, t.count(6), 0);
-    due("count(13) behind " + text, t.count(13), text.length());
+    due("count(13) behind " + text, t.count(13), 0);
   }
   private static String times(String part, int n) { return part.repeat(n); }
 
@@ -163,7 +163,10 @@ public final class PromisesTest {
     due("all stays: day", t.count(7), 1);
     due("all stays: acts", t.count(11), 2);
     due("all stays: quarter", t.person(0, 0), 1);
-    due("all stays: the tape", t.count(13), 9);
+    due("but the tape is empty", t.count(13), 0);
+    due("feed", t.feed(0, 0, 0, 0, 0), 20);
+    due("a fault", t.town(), fault(0, 0));
+    due("the tape is empty", t.feed(0, 0, 0, 0, 0), 20);
     due("a town", town(t, "town 2 1;bridge 0 1;person 1"), 1);
     due("day", t.count(7), 0);
     due("acts", t.count(11), 0);
@@ -267,7 +270,10 @@ public final class PromisesTest {
     due("rule", rule(t, " cross person + bridge-from*to/home%left if day = goal and pay < until or nearer > people ; cross 7 "), 2);
     due("rule", rule(t, "cross 99999 if [ [ 1 = 1 ] ]"), 3);
     due("a fault", rule(t, "cross"), fault(5, 0));
-    due("the tape stays", t.count(13), 5);
+    due("the tape is empty", t.count(13), 0);
+    due("feed", t.feed(0, 0, 0, 0, 0), 20);
+    due("a fault", t.rule(), fault(0, 0));
+    due("the tape is empty", t.feed(0, 0, 0, 0, 0), 20);
     due("rule", rule(t, "cross 1 if not not 1>=0"), 4);
     due("rule", rule(t, "cross 1"), 5);
     due("count(6)", t.count(6), 6);
