@@ -1,9 +1,5 @@
 /** What the document asks, promise by promise, with answers worked out by hand. */
-public final class PromisesTest {
-  private static int wrong = 0;
-  private static String where = "";
-  private static final int NONE = -1;
-
+public final class PromisesTest extends Checks {
   /** Four quarters, a short bridge for one person, another one shut in, a ferry, a frost. */
   private static final String RIVER = "town 4 3;bridge 0 1;bridge 1 2;bridge 2 3;bridge 0 2;ferry 1 3;frost 2 4;"
       + "person 0;person 3;person 1;crossed 0 0 2;crossed 1 2 3;"
@@ -40,51 +36,12 @@ public final class PromisesTest {
     drawnLives();
     counts();
     images();
-    System.out.println(wrong == 0 ? "all promises are as due" : wrong + " answers are not as due");
-    if (wrong != 0) System.exit(1);
+    finish();
   }
-
-  // ---- helpers
-
-  private static void due(String call, int got, int want) {
-    if (got != want) { wrong++; System.out.println(where + ": " + call + " answered " + got + ", due is " + want); }
-  }
-
-  private static ThriceBridge feed(ThriceBridge t, String text) {
-    for (int i = 0; i < text.length(); i += 20) {
-      int[] n = new int[5];
-      for (int j = 0; j < 20; j++) n[j / 4] = n[j / 4] << 8 | (i + j < text.length() ? text.charAt(i + j) & 255 : 0);
-      t.feed(n[0], n[1], n[2], n[3], n[4]);
-    }
-    t.end(text.length());
-    return t;
-  }
-  private static int town(ThriceBridge t, String text) { t.end(0); return feed(t, text).town(); }
-  private static int rule(ThriceBridge t, String text) { t.end(0); return feed(t, text).rule(); }
-  private static ThriceBridge in(String text) {
-    ThriceBridge t = new ThriceBridge();
-    int answer = town(t, text);
-    if (answer < 0) { wrong++; System.out.println(where + ": no town: " + answer + " " + text); }
-    return t;
-  }
-  private static int fault(int place, int kind) { return -2 - (1 + 8 * place + kind); }
-  private static void townFault(String text, int place, int kind) {
-    ThriceBridge t = new ThriceBridge();
-    due("town() of " + text, town(t, text), fault(place, kind));
-    due("count(0) behind " + text, t.count(0), 0);
-    due("count(13) behind " + text, t.count(13), 0);
-  }
-  private static void ruleFault(String text, int place, int kind) {
-    ThriceBridge t = new ThriceBridge();
-    due("rule() of " + text, rule(t, text), fault(place, kind));
-    due("count(6) behind " + text, t.count(6), 0);
-    due("count(13) behind " + text, t.count(13), 0);
-  }
-  private static String times(String part, int n) { return part.repeat(n); }
 
   // ---- promise 1
   private static void newObject() {
-    where = "new object";
+    about("new object");
     ThriceBridge t = new ThriceBridge();
     for (int what = 0; what <= 13; what++) due("count " + what, t.count(what), 0);
     due("person", t.person(0, 0), NONE);
@@ -116,7 +73,7 @@ public final class PromisesTest {
 
   // ---- promises 2 and 3
   private static void tape() {
-    where = "tape";
+    about("tape");
     ThriceBridge t = new ThriceBridge();
     due("end(1)", t.end(1), NONE);
     due("end(0)", t.end(0), 0);
@@ -141,7 +98,7 @@ public final class PromisesTest {
 
   // ---- promise 4
   private static void towns() {
-    where = "town";
+    about("town");
     ThriceBridge t = in(RIVER);
     due("count(2)", t.count(2), 4);
     due("count(0)", t.count(0), 4);
@@ -180,7 +137,7 @@ public final class PromisesTest {
   }
 
   private static void townFaults() {
-    where = "town's faults";
+    about("town's faults");
     townFault("", 0, 0);
     townFault("   ", 3, 0);
     townFault("town", 4, 0);
@@ -236,7 +193,7 @@ public final class PromisesTest {
   }
 
   private static void townCounts() {
-    where = "town's limits";
+    about("town's limits");
     String town = "town 2 1";
     ThriceBridge t = new ThriceBridge();
     String nine = town + times(";bridge 0 1", 9);
@@ -262,7 +219,7 @@ public final class PromisesTest {
 
   // ---- promise 5
   private static void rules() {
-    where = "rule";
+    about("rule");
     ThriceBridge t = new ThriceBridge();
     due("rule", rule(t, "cross 1"), 0);
     due("count(13)", t.count(13), 0);
@@ -286,7 +243,7 @@ public final class PromisesTest {
   }
 
   private static void ruleFaults() {
-    where = "rule's faults";
+    about("rule's faults");
     ruleFault("", 0, 0);
     ruleFault("cross", 5, 0);
     ruleFault("cross  ", 7, 0);
@@ -333,7 +290,7 @@ public final class PromisesTest {
   }
 
   private static void ruleLimits() {
-    where = "rule's limits";
+    about("rule's limits");
     ThriceBridge t = new ThriceBridge();
     String twelve = "cross 1" + times(";cross 1", 11);
     due("twelve clauses", rule(t, twelve), 0);
@@ -363,7 +320,7 @@ public final class PromisesTest {
 
   // ---- promise 6
   private static void people() {
-    where = "person";
+    about("person");
     ThriceBridge t = in(RIVER);
     due("quarter", t.person(1, 0), 3);
     due("home", t.person(2, 1), 1);
@@ -397,7 +354,7 @@ public final class PromisesTest {
 
   // ---- promises 7 and 8
   private static void bridges() {
-    where = "left and bridge";
+    about("left and bridge");
     ThriceBridge t = in(RIVER);
     due("left", t.left(0, 0), 1);
     due("left", t.left(0, 1), 3);
@@ -424,7 +381,7 @@ public final class PromisesTest {
 
   // ---- promise 9
   private static void crossing() {
-    where = "cross";
+    about("cross");
     ThriceBridge t = in(RIVER);
     due("not there", t.cross(0, 1), NONE);
     due("nothing left", t.cross(1, 2), NONE);
@@ -445,7 +402,7 @@ public final class PromisesTest {
 
   // ---- promise 10
   private static void sailing() {
-    where = "sail";
+    about("sail");
     ThriceBridge t = in(RIVER);
     due("not there", t.sail(0, 0), NONE);
     due("there", t.sail(1, 0), 1);
@@ -473,7 +430,7 @@ public final class PromisesTest {
 
   // ---- promise 11
   private static void carrying() {
-    where = "carry";
+    about("carry");
     ThriceBridge t = in("town 3 1;bridge 0 1;bridge 1 2;person 0;person 0;person 1");
     due("oneself", t.carry(0, 0, 0), NONE);
     due("nobody", t.carry(0, 3, 0), NONE);
@@ -500,7 +457,7 @@ public final class PromisesTest {
 
   // ---- promise 12
   private static void rebuilding() {
-    where = "rebuild";
+    about("rebuild");
     ThriceBridge t = in(RIVER);
     due("not crossed", t.rebuild(1), NONE);
     due("no bridge", t.rebuild(4), NONE);
@@ -522,7 +479,7 @@ public final class PromisesTest {
 
   // ---- promise 13
   private static void days() {
-    where = "day";
+    about("day");
     ThriceBridge t = in("town 2 5;bridge 0 1;person 0;person 1;want 0 0 0 5;want 0 0 0 7;want 1 0 0 9;want 1 1 1 20;want 0 1 1 30");
     due("both wants", t.day(), 12);
     due("earned", t.person(0, 2), 12);
@@ -555,7 +512,7 @@ public final class PromisesTest {
 
   // ---- promise 14
   private static void undoing() {
-    where = "undo";
+    about("undo");
     ThriceBridge t = in("town 2 5" + times(";bridge 0 1", 5) + ";person 0");
     due("none", t.undo(), NONE);
     for (int i = 0; i < 25; i++) due("cross", t.cross(0, i / 5), 1 - i % 2);
@@ -580,7 +537,7 @@ public final class PromisesTest {
 
   // ---- promise 15
   private static void runs() {
-    where = "run";
+    about("run");
     ThriceBridge t = in(RIVER);
     rule(t, "cross nearer * 5 + 1 if nearer >= 0");
     due("no rule", t.run(1, 1), NONE);
@@ -620,7 +577,7 @@ public final class PromisesTest {
   }
 
   private static void ruleWords() {
-    where = "words of a rule";
+    about("words of a rule");
     String far = "town 4 2;bridge 0 1;person 0;person 0;want 0 3 9 5";
     ThriceBridge t = obeys(far, "cross nearer");
     due("no bridges lead there: 99", t.person(0, 0), 1);
@@ -667,7 +624,7 @@ public final class PromisesTest {
   }
 
   private static void ruleReckoning() {
-    where = "reckoning of a rule";
+    about("reckoning of a rule");
     crosses("cross 0", false);
     crosses("cross 1", true);
     crosses("cross 1 - 2", false);
@@ -723,7 +680,7 @@ public final class PromisesTest {
 
   // ---- promise 16
   private static void ways() {
-    where = "way";
+    about("way");
     ThriceBridge t = in(RIVER);
     due("how few", t.way(0, 3, 0), 2);
     due("first", t.way(0, 3, 1), 3);
@@ -754,7 +711,7 @@ public final class PromisesTest {
   }
 
   private static void plannedLives() {
-    where = "life";
+    about("life");
     ThriceBridge t = in(RIVER);
     plan(t, 0, 1, 0, NONE);
     plan(t, 0, 2, 0, NONE, NONE);
@@ -786,7 +743,7 @@ public final class PromisesTest {
 
   // ---- promises 18 and 19
   private static void worths() {
-    where = "worth and more";
+    about("worth and more");
     ThriceBridge t = in("town 3 2;bridge 0 1;bridge 1 2;person 0;crossed 0 0 1;crossed 0 1 1;want 0 1 0 8;want 0 2 2 20");
     due("one more to come home", t.worth(0, 0, 2), 8);
     due("of no use in one day", t.worth(0, 0, 1), 0);
@@ -818,7 +775,7 @@ public final class PromisesTest {
 
   // ---- promise 20
   private static void meetings() {
-    where = "meet";
+    about("meet");
     ThriceBridge t = in(RIVER);
     due("quarter", t.meet(0, 2, 0), 0);
     due("how many", t.meet(0, 2, 1), 1);
@@ -841,7 +798,7 @@ public final class PromisesTest {
 
   // ---- promises 21 and 22
   private static void bestAndAlone() {
-    where = "best and alone";
+    about("best and alone");
     ThriceBridge t = in(RIVER);
     due("bridge", t.best(0), 2);
     due("how many", t.best(1), 3);
@@ -873,7 +830,7 @@ public final class PromisesTest {
 
   // ---- promise 23
   private static void letters() {
-    where = "letter";
+    about("letter");
     ThriceBridge t = in("town 5 1;bridge 0 1;bridge 1 2;bridge 2 3;bridge 3 4;person 0;person 2;person 2;person 4;"
         + "crossed 0 1 1;crossed 1 2 1;crossed 2 1 1;crossed 3 2 1");
     due("two hands", t.letter(0, 3, 0), 2);
@@ -908,7 +865,7 @@ public final class PromisesTest {
   }
 
   private static void stories() {
-    where = "came";
+    about("came");
     ThriceBridge t = in("town 2 5;bridge 0 1;bridge 0 1;ferry 0 1;person 0;crossed 0 0 2");
     story(t, 1, 0, -2);
     due("nobody", t.came(1, 0), NONE);
@@ -951,7 +908,7 @@ public final class PromisesTest {
 
   // ---- promise 25
   private static void trails() {
-    where = "trail";
+    about("trail");
     ThriceBridge t = in("town 4 1;bridge 0 3;bridge 0 1;bridge 1 2;person 0;person 3;crossed 1 0 1");
     due("how many", t.trail(0, 0), 2);
     due("where", t.trail(0, 1), 2);
@@ -977,7 +934,7 @@ public final class PromisesTest {
 
   // ---- promises 26 and 27
   private static void drawnLives() {
-    where = "seed and lives";
+    about("seed and lives");
     ThriceBridge t = in("town 2 5;bridge 0 1;person 0;want 0 1 0 7");
     due("a day", t.lives(1, 1, 0), 1);
     due("its pay", t.lives(1, 1, 1), 7);
@@ -1020,7 +977,7 @@ public final class PromisesTest {
 
   // ---- promise 28
   private static void counts() {
-    where = "count";
+    about("count");
     ThriceBridge t = in(RIVER);
     int[] want = {4, 3, 4, 1, 3, 4, 0, 0, 0, 0, 7, 0, 0, 0};
     for (int what = 0; what < want.length; what++) due("count " + what, t.count(what), want[what]);
@@ -1038,7 +995,7 @@ public final class PromisesTest {
 
   // ---- promises 29 and 30
   private static void images() {
-    where = "image and back";
+    about("image and back");
     ThriceBridge t = new ThriceBridge();
     due("without a town", t.image(3), 0);
     due("no image", t.image(4), NONE);

@@ -5,7 +5,7 @@ import java.util.Comparator;
 import java.util.Random;
 
 /** Any arguments in any state: no call may throw. */
-public final class WildCallsTest {
+public final class WildCallsTest extends Checks {
   private static final int[] NUMBERS = {Integer.MIN_VALUE, -400, -3, -2, -1, 0, 0, 0, 1, 1, 1, 2, 2, 3, 4, 5, 6, 7, 8, 9, 10,
       31, 32, 60, 61, 400, 999, 65536, Integer.MAX_VALUE - 1, Integer.MAX_VALUE};
   private static final String[] TEXTS = {
@@ -35,14 +35,7 @@ public final class WildCallsTest {
   }
 
   private static void tell(ThriceBridge t, String text) {
-    t.end(0);
-    for (int i = 0; i < text.length(); i += 20) {
-      int[] n = new int[5];
-      for (int j = 0; j < 20; j++) n[j / 4] = n[j / 4] << 8 | (i + j < text.length() ? text.charAt(i + j) : 0);
-      t.feed(n[0], n[1], n[2], n[3], n[4]);
-    }
-    t.end(text.length());
-    if (text.startsWith("town")) t.town();
-    else t.rule();
+    if (text.startsWith("town")) town(t, text);
+    else rule(t, text);
   }
 }
