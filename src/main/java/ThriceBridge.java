@@ -1550,6 +1550,9 @@ public final class ThriceBridge {
                 longest = length;
                 finish = quarter;
             }
+            if (length >= MOST_CROSSINGS_SEEN) {
+                return;
+            }
             for (int bridge = 0; bridge < bridges.size && longest < MOST_CROSSINGS_SEEN; bridge++) {
                 int to = bridges.across(bridge, quarter);
                 if (to != NONE && bridges.isFirstOpen(bridge, left)) {

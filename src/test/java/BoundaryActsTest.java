@@ -637,6 +637,11 @@ public final class BoundaryActsTest extends Checks {
     word("town 4 1;bridge 0 1;bridge 2 3;person 0;want 0 3 9 1", 0, 0, "nearer", "99");
     word("town 4 1;bridge 0 1;bridge 1 2;person 0", 0, 0, "nearer", "0-1");
     String ring = "town 8 1;bridge 0 1;bridge 1 2;bridge 2 3;bridge 3 4;bridge 4 5;bridge 5 6;bridge 6 7;bridge 7 0;person 0;";
+    about("nearer: by how few BRIDGES it is, whichever was told first");
+    String roundAbout = "town 4 1;bridge 0 1;bridge 1 2;bridge 2 3;bridge 3 0;bridge 2 0;person 0;want 0 2 9 1";
+    word(roundAbout, 0, 0, "bridge = 0 and nearer", "0");
+    word(roundAbout, 0, 0, "bridge = 3 and nearer", "0");
+    word(roundAbout, 0, 0, "bridge = 4 and nearer", "1");
     due("either way round", obeys(ring + "want 0 4 9 1", "cross nearer", 4).person(0, 0), 4);
     due("the short way round", obeys(ring + "want 0 5 9 1", "cross nearer", 3).person(0, 0), 5);
   }
@@ -700,6 +705,10 @@ public final class BoundaryActsTest extends Checks {
       due(x + " and" + y + "and" + z, crosses("cross 1 if " + x + " and" + y + "and" + z) ? 1 : 0, a && b && c ? 1 : 0);
       due("[] " + x + y + z, crosses("cross 1 if [" + x + " or" + y + "]and" + z) ? 1 : 0, (a || b) && c ? 1 : 0);
       due("not " + x + y + z, crosses("cross 1 if not " + x + " and" + y + "or" + z) ? 1 : 0, !a && b || c ? 1 : 0);
+      due(x + " and []" + y + z, crosses("cross 1 if " + x + " and [" + y + "or" + z + "]") ? 1 : 0, a && (b || c) ? 1 : 0);
+      due(x + " or []" + y + z, crosses("cross 1 if " + x + " or [" + y + "and" + z + "]") ? 1 : 0, a || b && c ? 1 : 0);
+      due("[] and []" + x + y + z, crosses("cross 1 if [" + x + "]and[" + y + "]and[" + z + "]") ? 1 : 0, a && b && c ? 1 : 0);
+      due("[] or []" + x + y + z, crosses("cross 1 if [" + x + "]or[" + y + "]or[" + z + "]") ? 1 : 0, a || b || c ? 1 : 0);
       due("not [] " + x + y + z, crosses("cross 1 if not [" + x + " and" + y + "or" + z + "]") ? 1 : 0, a && b || c ? 0 : 1);
     }
     does("cross 1 if 10-2-3=5");

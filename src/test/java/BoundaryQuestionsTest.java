@@ -4,6 +4,7 @@ public final class BoundaryQuestionsTest extends Checks {
 
   public static void main(String[] args) {
     askingChangesNothing();
+    fullestTown();
     reach();
     lost();
     wayThereOrNot();
@@ -78,6 +79,55 @@ public final class BoundaryQuestionsTest extends Checks {
       changesNothing("lives", start, t -> { t.lives(10, 60, what); return 0; }, 0);
     }
     changesNothing("alone", start, t -> { t.alone(); return 0; }, 0);
+  }
+
+  /** A ring of eight quarters, as much of all as there can be: what has the last number is asked for. */
+  private static void fullestTown() {
+    about("BRIDGES 0 to 8, FERRIES 0 to 3, FROSTS 0 to 3, PEOPLE 0 to 3, WANTS 0 to 7");
+    String town = "town 8 5;bridge 0 1;bridge 1 2;bridge 2 3;bridge 3 4;bridge 4 5;bridge 5 6;bridge 6 7;bridge 7 0;bridge 7 0;"
+        + "ferry 0 1;ferry 0 2;ferry 0 3;ferry 7 4;frost 9 9;frost 8 8;frost 7 7;frost 1 1;person 0;person 2;person 5;person 7;"
+        + "want 3 0 0 50;want 3 7 1 50;want 3 0 2 50;want 3 7 3 50;want 3 0 4 50;want 3 7 5 50;want 0 0 5 1;want 3 7 5 50";
+    ThriceBridge t = in(town);
+    int[] life = {350, 7, 7, 7, 7, 7, 8};
+    for (int what = 0; what <= 6; what++) due("life", t.life(3, 6, what), life[what]);
+    due("worth", t.worth(3, 8, 6), 0);
+    due("more", t.more(3, 6), 0);
+    int[] person = {7, 7, 0, 255, 0, 0};
+    for (int what = 0; what <= 5; what++) due("person", t.person(3, what), person[what]);
+    due("way", t.way(3, 3, 0), 4);
+    due("way", t.way(3, 3, 1), 6);
+    due("meet", t.meet(2, 3, 0), 6);
+    due("meet", t.meet(3, 2, 1), 2);
+    due("best", t.best(0), -2);
+    due("alone", t.alone(), 0);
+    due("letter", t.letter(0, 3, 0), 0);
+    due("came", t.came(3, 0), 1);
+    due("trail", t.trail(3, 0), 8);
+    due("trail: 6 5 4 3 2 1 0 0", t.trail(3, 1), 1);
+    due("left", t.left(3, 8), 5);
+    due("cross", t.cross(3, 8), 0);
+    due("crossed", t.bridge(8, 2), 1);
+    due("rebuild", t.rebuild(8), 1);
+    t.undo();
+    t.undo();
+    due("sail", t.sail(3, 3), 4);
+    t.undo();
+    t.day();
+    due("frost", t.count(8), 1);
+    town(t, town);
+    rule(t, "cross nearer");
+    due("run", t.run(0, 6), 351);
+    due("the last crossing", t.left(3, 8), 4);
+    due("pay", t.person(3, 2), 350);
+    due("pay of all", t.count(9), 351);
+    t = in("town 2 1;person 0;person 0;person 1;person 1;want 0 0 0 1;want 1 0 0 2;want 2 1 0 4;want 3 1 0 8");
+    due("pay of four", t.day(), 15);
+    due("pay of all four", t.count(9), 15);
+    t = in("town 8 1" + times(";bridge 0 1", 8) + ";bridge 6 7;person 7;crossed 0 8 1");
+    due("nine bridges, none left here", t.trail(0, 0), 0);
+    due("nine bridges, none left here", t.way(0, 6, 0), -2);
+    due("the ninth rebuilt", t.best(0), 8);
+    due("the ninth is lost", t.person(0, 4), 256);
   }
 
   // ---- promise 6, what 3 and 4
@@ -226,6 +276,9 @@ public final class BoundaryQuestionsTest extends Checks {
     plan(in("town 3 2;bridge 0 2;bridge 0 1;person 0;want 0 1 1 5;want 0 2 1 4"), 3, 5, NONE, 1, 1);
     plan(in("town 2 3;bridge 0 1;bridge 0 1;person 0;want 0 1 0 2;want 0 0 1 2;want 0 1 2 2;want 0 0 3 2;want 0 1 4 2;want 0 0 5 2"),
         6, 12, 0, 0, 0, 1, 1, 1);
+    about("LIFE: of a DAY all WANTS in its QUARTER are met");
+    plan(in("town 2 2;bridge 0 1;person 0;person 0;want 0 0 0 5;want 0 1 0 4;want 0 1 0 3;want 1 1 0 50"), 2, 7, 0, 0);
+    plan(in("town 2 2;bridge 0 1;person 0;person 0;want 0 0 0 8;want 0 1 0 4;want 0 1 0 3;want 1 1 0 50"), 2, 8, NONE, NONE);
     about("LIFE: by which the PERSON is at home behind the last");
     plan(in("town 2 1;bridge 0 1;person 0;want 0 1 0 50"), 6, 0, NONE, NONE, NONE, NONE, NONE, NONE);
     plan(in("town 2 2;bridge 0 1;person 0;want 0 1 0 50"), 1, 0, NONE);
@@ -448,6 +501,10 @@ public final class BoundaryQuestionsTest extends Checks {
     due("one of two", t.letter(0, 3, 0), 1);
     due("the first of two", t.letter(0, 3, 1), 1);
     due("the first of two, from the other", t.letter(3, 0, 1), 1);
+    t = in("town 3 1;bridge 0 1;bridge 0 2;person 0;person 1;person 2;crossed 1 0 1;crossed 2 1 1");
+    due("by the hand of 0", t.letter(1, 2, 0), 1);
+    due("by the hand of 0", t.letter(1, 2, 1), 0);
+    due("by the hand of 0", t.letter(2, 1, 1), 0);
     due("who meet half way", in("town 3 1;bridge 0 1;bridge 1 2;person 0;person 2;crossed 0 1 1;crossed 1 0 1").letter(0, 1, 0), 0);
     due("in one quarter", in("town 3 1;person 2;person 2").letter(0, 1, 0), 0);
   }

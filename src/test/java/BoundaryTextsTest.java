@@ -8,6 +8,7 @@ public final class BoundaryTextsTest extends Checks {
     highestByteFirst();
     tapeIsFull();
     tapeIsShortened();
+    nothingBehindTheEnd();
     tapeHasNotSoMany();
     townTakesTheTape();
     townWithFault();
@@ -110,6 +111,32 @@ public final class BoundaryTextsTest extends Checks {
     due("feed", t.feed(0, 0, 0, 0, 0), 20);
   }
 
+  private static void nothingBehindTheEnd() {
+    about("end: The TAPE has its first n bytes alone: what stood behind them is not read");
+    String town = "town 00003 00005;bridge 0 1;ferry 1 2;frost 10 99;person 2;crossed 0 0 5;want 0 2 99 50  ";
+    String rule = "cross 12345+left*2 if not [left<=10 and people>=12] or nearer<10;cross until  ";
+    for (int n = 0; n <= town.length(); n++) {
+      ThriceBridge t = withTape(town);
+      t.end(n);
+      due("town of its first " + n, t.town(), withTape(town.substring(0, n)).town());
+    }
+    for (int n = 0; n <= rule.length(); n++) {
+      ThriceBridge t = withTape(rule);
+      t.end(n);
+      due("rule of its first " + n, t.rule(), withTape(rule.substring(0, n)).rule());
+    }
+    ThriceBridge t = withTape("cross 1 if 1<=1");
+    t.end(13);
+    due("the sign < at the end", t.rule(), fault(13, 0));
+    t = withTape("town 2 15");
+    t.end(8);
+    due("a digit at the end", t.town(), 0);
+    due("times", t.count(1), 1);
+    t = withTape("cross leftx");
+    t.end(10);
+    due("a word at the end", t.rule(), 0);
+  }
+
   private static void tapeHasNotSoMany() {
     about("end: NONE, and nothing happens, if it has not so many, or n is below 0");
     Start twenty = () -> withTape(padded("town 2 1;person 1", 20));
@@ -200,6 +227,16 @@ public final class BoundaryTextsTest extends Checks {
     due("the next has its number", rule(t, "cross 0"), 0);
     t.run(0, 1);
     due("and nothing of it", t.person(0, 0), 0);
+    t = in("town 2 1;bridge 0 1;person 0");
+    due("a fault behind clauses", rule(t, "cross 0 if 1=2;cross 5 if 1=1;cross 5;x"), fault(38, 0));
+    due("the next has its number", rule(t, "cross 9 if 1=2"), 0);
+    t.run(0, 1);
+    due("and none of its clauses", t.person(0, 0), 0);
+    String sixty = "cross 0" + times("+0", 58) + "+1";
+    for (int i = 0; i < 9; i++) due("a fault behind sixty values", rule(t, sixty + "+1"), fault(sixty.length() + 1, 3));
+    due("sixty values", rule(t, sixty), 1);
+    t.run(1, 1);
+    due("and none of what was counted", t.person(0, 0), 1);
   }
 
   private static ThriceBridge withSixRules(String tape) {
@@ -693,6 +730,11 @@ public final class BoundaryTextsTest extends Checks {
     townFault("town 2 1;towns 2 1", 9, 0);
     String nine = "town 2 1" + times(";bridge 0 1", 9);
     townFault(nine + ";bridges", nine.length() + 1, 0);
+    townFault(nine + ";100000", nine.length() + 1, 0);
+    townFault("town 2 1 100000", 9, 0);
+    ruleFault("cross 1 100000", 8, 0);
+    ruleFault("cross 1 if 1=1 100000", 15, 0);
+    ruleFault(sixty + " 1", sixty.length() + 1, 0);
     townFault(nine + ";", nine.length() + 1, 0);
   }
 }
