@@ -96,6 +96,7 @@ public final class BoundaryQuestionsTest extends Checks {
     for (int what = 0; what <= 5; what++) due("person", t.person(3, what), person[what]);
     due("way", t.way(3, 3, 0), 4);
     due("way", t.way(3, 3, 1), 6);
+    due("way to where one is", t.way(3, 7, 1), NONE);
     due("meet", t.meet(2, 3, 0), 6);
     due("meet", t.meet(3, 2, 1), 2);
     due("best", t.best(0), -2);
