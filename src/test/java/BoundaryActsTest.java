@@ -206,6 +206,10 @@ public final class BoundaryActsTest extends Checks {
     due("back", t.person(0, 0), 1);
     due("there", t.sail(0, 1), 2);
     due("not there any more", t.sail(0, 0), NONE);
+    t = in("town 3 1;ferry 1 2;person 0;person 1;person 1");
+    due("another one sails", t.sail(1, 0), 2);
+    int[] quarters = {0, 2, 1};
+    for (int person = 0; person < 3; person++) due("quarter of " + person, t.person(person, 0), quarters[person]);
   }
 
   private static void sailInFrost() {
@@ -272,6 +276,12 @@ public final class BoundaryActsTest extends Checks {
     due("who crossed is back", t.person(1, 0), 1);
     due("who slept is back", t.person(0, 0), 1);
     due("left", t.left(1, 1), 1);
+    t = in("town 4 1;bridge 1 2;person 0;person 3;person 1;person 1");
+    due("the last one carries", t.carry(3, 2, 0), 2);
+    int[] quarters = {0, 3, 2, 2};
+    for (int person = 0; person < 4; person++) due("quarter of " + person, t.person(person, 0), quarters[person]);
+    due("counted", t.left(3, 0), 0);
+    due("not counted", t.left(2, 0), 1);
   }
 
   private static ThriceBridge together() {

@@ -392,6 +392,8 @@ public final class BoundaryQuestionsTest extends Checks {
     meeting("town 4 1;bridge 0 2;bridge 0 3;bridge 2 1;bridge 3 1;person 0;person 1", 2, 2);
     meeting("town 4 1;bridge 0 2;bridge 0 3;bridge 2 1;bridge 3 1;person 0;person 1;crossed 0 0 1", 3, 2);
     meeting("town 8 1;bridge 0 1;bridge 1 2;bridge 2 3;bridge 3 4;bridge 4 5;bridge 5 6;bridge 6 7;person 7;person 0", 3, 7);
+    meeting("town 3 1;bridge 0 1;bridge 0 2;bridge 1 2;person 1;person 2", 1, 1);
+    meeting("town 7 1;bridge 0 1;bridge 1 2;bridge 3 6;bridge 6 2;bridge 3 5;bridge 5 4;bridge 4 0;person 0;person 3;crossed 0 6 1", 0, 3);
     about("MEET: in the REACH of both, by LEFT of each");
     meeting("town 3 1;bridge 0 1;bridge 1 2;bridge 0 2;person 0;person 2;crossed 0 2 1;crossed 1 2 1", 1, 2);
     meeting("town 3 1;bridge 0 1;bridge 1 2;person 0;person 2;crossed 0 1 1;crossed 1 0 1", 1, 2);
@@ -691,6 +693,8 @@ public final class BoundaryQuestionsTest extends Checks {
     trail("town 4 2;bridge 0 1;bridge 0 2;bridge 0 3;person 0", 6, 0);
     trail("town 4 2;bridge 0 1;bridge 0 2;bridge 0 3;person 0;crossed 0 0 1", 5, 1);
     trail("town 3 4;bridge 0 1;bridge 1 2;bridge 0 2;person 0", 8, 1);
+    trail("town 5 1;bridge 0 1;bridge 1 2;bridge 0 1;bridge 0 3;bridge 3 4;person 0", 4, 4);
+    trail("town 6 1;bridge 0 1;bridge 1 2;bridge 0 2;bridge 1 3;bridge 3 4;bridge 4 5;person 0", 5, 5);
   }
 
   private static void trailWithoutThese() {
