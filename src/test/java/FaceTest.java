@@ -57,11 +57,10 @@ public final class FaceTest {
     for (String f : FACE) names.add(f.split(" ")[0]);
     Class<?>[] inside = ThriceBridge.class.getDeclaredClasses();
     must(inside.length <= 12, "too many classes");
+    fewFields(ThriceBridge.class);
     for (Class<?> c : inside) {
       must(Modifier.isStatic(c.getModifiers()) && !Modifier.isPublic(c.getModifiers()), c + " is not static or is public");
-      int fields = 0;
-      for (Field f : c.getDeclaredFields()) if (!Modifier.isStatic(f.getModifiers())) fields++;
-      must(fields <= 20, c + " has " + fields + " fields");
+      fewFields(c);
       for (Method m : c.getDeclaredMethods()) {
         must(!names.contains(m.getName()), m + " bears the name of a public one");
         must(m.getParameterCount() <= 7, m + " takes too many");
@@ -70,6 +69,12 @@ public final class FaceTest {
     for (Method m : ThriceBridge.class.getDeclaredMethods()) {
       if (Modifier.isPrivate(m.getModifiers())) must(!names.contains(m.getName()), m + " bears the name of a public one");
     }
+  }
+
+  private static void fewFields(Class<?> c) {
+    int fields = 0;
+    for (Field f : c.getDeclaredFields()) if (!Modifier.isStatic(f.getModifiers())) fields++;
+    must(fields <= 20, c + " has " + fields + " fields");
   }
 
   private static void source(String text) {
